@@ -373,7 +373,7 @@ public final class BinderParcels {
             state.doWithCare(trials[depth + 1], parcel);
             int later = lowestMending(state, trials, depth + 1, parcel + 1, size - 1);
             if (later != NONE) {
-                int set = later | 1 << parcel;
+                int set = later | (1 << parcel);
                 lowest = lowest == NONE ? set : Math.min(lowest, set);
             }
         }
@@ -585,7 +585,7 @@ public final class BinderParcels {
         }
 
         boolean isWaiting(int owner, int parcel) {
-            return (waiting[owner] & 1 << parcel) != 0;
+            return (waiting[owner] & (1 << parcel)) != 0;
         }
 
         int order(int parcel, int index) {
@@ -640,7 +640,7 @@ public final class BinderParcels {
 
         void doSetWithCare(Binder binder, int set) {
             for (int parcel = 0; parcel < parcels; parcel++) {
-                if ((set & 1 << parcel) != 0) {
+                if ((set & (1 << parcel)) != 0) {
                     doWithCare(binder, parcel);
                 }
             }
@@ -650,7 +650,7 @@ public final class BinderParcels {
         int ownersOf(int[] sets, int parcel) {
             int found = 0;
             for (int owner = 0; owner < owners; owner++) {
-                if ((sets[owner] & 1 << parcel) != 0) {
+                if ((sets[owner] & (1 << parcel)) != 0) {
                     found |= 1 << owner;
                 }
             }

@@ -5,6 +5,7 @@ public final class Promise04Test {
     public static void main(String[] args) {
         withCare();
         carelessly();
+        theOrdersOfThisParcelAlone();
         fullBinderWithCare();
         fullBinderCarelessly();
         errors();
@@ -60,6 +61,19 @@ public final class Promise04Test {
         Check.due("two of the same issue", x.leaf(0, 20, 0), 1);
         Check.due("1.0 three times", x.leaf(0, 10, 0), 3);
         Check.due("nothing waits", x.of(0, 1), 0);
+    }
+
+    private static void theOrdersOfThisParcelAlone() {
+        for (int i = 0; i < 2; i++) {
+            boolean isCareful = i == 0;
+            BinderParcels x = waiting(Check.row('+', 20, 8));
+            x.undo();
+            Check.issue(x, "+1.0");
+            Check.due("done behind a longer one that was undone", x.done(0, 0, isCareful), 1);
+            x = waiting(Check.row('+', 20, 8), "+3.0");
+            Check.due("done ahead of another one", x.done(0, 0, isCareful), 8);
+            Check.due("the other one's number", x.leaf(0, 30, 0), 0);
+        }
     }
 
     private static BinderParcels full() {

@@ -2,6 +2,7 @@
 public final class Promise13Test {
     public static void main(String[] args) {
         numbers();
+        mostLeaves();
         rightOwners();
         changes();
         errors();
@@ -45,6 +46,22 @@ public final class Promise13Test {
         due(x, 7, 0);
         Check.type(x, "anything at".replace(' ', '-'));
         due(x, 7, 11);
+    }
+
+    private static void mostLeaves() {
+        BinderParcels x = new BinderParcels();
+        Check.issue(x, "-1.0");
+        due(x, 6, Check.NONE);
+        Check.issue(x, "+1.0");
+        due(x, 6, 1);
+        Check.issue(x, "+2.0");
+        due(x, 6, 1);
+        Check.issue(x, "+1.0");
+        due(x, 6, 2);
+        Check.issue(x, "+3.0,+4.0,-2.0");
+        due(x, 6, 4);
+        due(x, 5, 0);
+        due(x, 2, 3);
     }
 
     private static void rightOwners() {

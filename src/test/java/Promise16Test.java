@@ -7,6 +7,7 @@ public final class Promise16Test {
         lowestOfSeveral();
         threeAtMost();
         orderOfIssue();
+        fullBinder();
         errors();
         Check.finish();
     }
@@ -88,6 +89,23 @@ public final class Promise16Test {
         Check.due("mending(0) by 1 again", x.mending(0), 2);
         Check.issue(x, "+2.0");
         Check.due("mending(0) by 1 and 2", x.mending(0), 6);
+    }
+
+    /** Done twice, parcel 7 would mend: first it makes room, then 9.0 comes. A set has it once. */
+    private static void fullBinder() {
+        BinderParcels x = new BinderParcels();
+        Check.issueRows(x, 7);
+        Check.issue(x, "+9.0,-9.9");
+        x.own();
+        x.hand(0, 90, 7, false);
+        for (int i = 0; i < 3; i++) {
+            x.hand(0, 99, 0, true);
+        }
+        Check.due("mending(0), room for one", x.mending(0), 1 << 7);
+        Check.due("a 60th leaf", x.hand(0, 99, 0, true), 60);
+        Check.due("mending(0), full", x.mending(0), Check.NONE);
+        Check.issue(x, "+9.0");
+        Check.due("mending(0), with another 9.0", x.mending(0), 3 << 7);
     }
 
     private static void errors() {

@@ -5,6 +5,7 @@ import java.util.List;
 public final class Promise21Test {
     public static void main(String[] args) {
         everyKindOfChange();
+        ordersOfParcels();
         sixAtMost();
         padAndSlotsStay();
         errorsAndQuestionsAreNotRecorded();
@@ -41,6 +42,22 @@ public final class Promise21Test {
         }
         Check.due("one undo() too many", x.undo(), Check.NOT_POSSIBLE);
         Check.same("the failed undo()", Check.picture(x), states.get(0));
+    }
+
+    /** A parcel that is gone and comes back has its own orders, not those of one that had its number. */
+    private static void ordersOfParcels() {
+        BinderParcels x = new BinderParcels();
+        x.own();
+        x.save(0);
+        Check.issue(x, "+1.0,-2.0,+3.0");
+        List<Integer> before = Check.picture(x);
+        x.restore(0);
+        Check.issue(x, "-4.0,+5.0");
+        x.undo();
+        Check.due("undo() of restore", x.undo(), 2);
+        Check.same("undo() of restore", Check.picture(x), before);
+        x.doAll(0);
+        Check.due("its leaves", x.of(0, 7), 40);
     }
 
     /** More changes than are kept, several times round, with undo in between. */

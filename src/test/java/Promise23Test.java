@@ -4,6 +4,7 @@ import java.util.List;
 public final class Promise23Test {
     public static void main(String[] args) {
         wholeState();
+        ordersOfParcels();
         keepsTheSlot();
         isAChange();
         errors();
@@ -37,6 +38,21 @@ public final class Promise23Test {
         x.wipe();
         Check.due("issue() then", Check.issue(x, "+7.0"), 3);
         Check.due("it waits for both", x.parcel(3, 9), 3);
+    }
+
+    private static void ordersOfParcels() {
+        BinderParcels x = new BinderParcels();
+        x.own();
+        Check.issue(x, "+1.0,-2.0,+3.0");
+        List<Integer> saved = Check.picture(x);
+        x.save(0);
+        x.undo();
+        Check.issue(x, "-4.0");
+        Check.due("restore(0)", x.restore(0), 1);
+        Check.same("restore(0)", Check.picture(x), saved);
+        Check.due("doAll(0)", x.doAll(0), 1);
+        Check.due("the binder is right", x.of(0, 6), 1);
+        Check.due("its leaves", x.of(0, 0), 2);
     }
 
     private static void keepsTheSlot() {
