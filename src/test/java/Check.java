@@ -1,7 +1,9 @@
-import java.util.ArrayList;
-import java.util.List;
+import java.util.Map;
+import java.util.TreeSet;
+import java.util.function.Consumer;
+import java.util.function.ToIntFunction;
 
-/** What the tests share: due answers, texts as calls of put, and pictures of an object. */
+/** What the tests look at: answers that are due, and calls that change something or nothing. */
 final class Check {
     static final int NO_SUCH = -1, BAD_VALUE = -2, BAD_TEXT = -3, TOO_MANY = -4, NOT_POSSIBLE = -5, NONE = -6;
 
@@ -17,11 +19,45 @@ final class Check {
         }
     }
 
-    static void same(String call, List<Integer> got, List<Integer> want) {
+    /** Two pictures are the same. */
+    static void same(String behind, Map<String, Integer> got, Map<String, Integer> want) {
         if (!got.equals(want)) {
             wrong++;
-            System.out.println(call + " gives " + got + ", due is " + want);
+            TreeSet<String> questions = new TreeSet<>(got.keySet());
+            questions.addAll(want.keySet());
+            questions.removeIf(question -> got.containsKey(question) && got.get(question).equals(want.get(question)));
+            String first = questions.first();
+            System.out.println("behind " + behind + ", " + questions.size() + " answers are not as due: "
+                + first + " answered " + got.get(first) + ", due is " + want.get(first));
         }
+    }
+
+    /** A call fails with an error, and changes nothing. */
+    static void fails(Subject x, String name, ToIntFunction<Subject> call, int error) {
+        Subject failed = x.twin();
+        due(name, call.applyAsInt(failed), error);
+        same(name, Picture.whole(failed), Picture.whole(x));
+    }
+
+    /** A call changes nothing, whatever it answers. */
+    static void changesNothing(Subject x, String name, Consumer<Subject> call) {
+        Subject called = x.twin();
+        call.accept(called);
+        same(name, Picture.whole(called), Picture.whole(x));
+    }
+
+    /** A call is a change: the state before it is recorded, and undo brings it back. */
+    static void isChange(Subject x, String name, Consumer<Subject> call) {
+        Subject changed = x.twin();
+        int changes = changed.count(8);
+        call.accept(changed);
+        due(name + ", then count(8)", changed.count(8), Math.min(6, changes + 1));
+        due(name + ", then undo()", changed.undo(), Math.min(5, changes));
+        same(name + ", undone", Picture.of(changed), Picture.of(x));
+    }
+
+    static int wrong() {
+        return wrong;
     }
 
     static void finish() {
@@ -29,84 +65,5 @@ final class Check {
             System.out.println(wrong + " answers are not as due");
             System.exit(1);
         }
-    }
-
-    /** Up to 8 characters as the number that put takes. */
-    static long packed(String characters) {
-        long number = 0;
-        for (int i = 0; i < characters.length(); i++) {
-            number = number << 8 | characters.charAt(i);
-        }
-        return number;
-    }
-
-    /** Puts a text in pieces; returns what the last call of put answered. */
-    static int type(BinderParcels x, String text) {
-        int answer = 0;
-        for (int i = 0; i < text.length(); i += 8) {
-            answer = x.put(packed(text.substring(i, Math.min(text.length(), i + 8))));
-        }
-        return answer;
-    }
-
-    /** Issues the parcel of a text. */
-    static int issue(BinderParcels x, String text) {
-        x.wipe();
-        type(x, text);
-        return x.issue();
-    }
-
-    /** The text of a parcel that puts in, or takes out, so many numbers from a number on. */
-    static String row(char sign, int first, int size) {
-        StringBuilder text = new StringBuilder();
-        for (int number = first; number < first + size; number++) {
-            text.append(text.length() == 0 ? "" : ",").append(sign);
-            text.append(number / 10).append('.').append(number % 10);
-        }
-        return text.toString();
-    }
-
-    /** Issues parcels of 8 numbers each, from 1.0 on. */
-    static void issueRows(BinderParcels x, int parcels) {
-        for (int i = 0; i < parcels; i++) {
-            due("a row's issue()", issue(x, row('+', 10 + 8 * i, 8)), x.count(0) - 1);
-        }
-    }
-
-    /** How often each number, 10 to 99, stands in the text, and of which issue. */
-    static List<Integer> textOf(BinderParcels x) {
-        List<Integer> issues = new ArrayList<>();
-        for (int number = 10; number <= 99; number++) {
-            issues.add(x.text(number));
-        }
-        return issues;
-    }
-
-    /** What can be seen of an object apart from its pad and its history. */
-    static List<Integer> picture(BinderParcels x) {
-        List<Integer> seen = new ArrayList<>();
-        for (int what = 0; what <= 6; what++) {
-            seen.add(x.count(what));
-        }
-        for (int parcel = 0; parcel < x.count(0); parcel++) {
-            for (int what = 0; what <= 10; what++) {
-                seen.add(x.parcel(parcel, what));
-            }
-        }
-        for (int owner = 0; owner < x.count(1); owner++) {
-            for (int what = 0; what <= 7; what++) {
-                seen.add(x.of(owner, what));
-            }
-        }
-        return seen;
-    }
-
-    /** The same with the pad and the history: what an error may not change. */
-    static List<Integer> wholePicture(BinderParcels x) {
-        List<Integer> seen = picture(x);
-        seen.add(x.count(7));
-        seen.add(x.count(8));
-        seen.add(x.fault());
-        return seen;
     }
 }

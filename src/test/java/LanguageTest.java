@@ -7,11 +7,11 @@ import java.util.regex.Pattern;
 public final class LanguageTest {
     private static final String[] NEVER = {
         "\\bpackage\\b", "\\bthrows?\\b", "\\btry\\b", "\\bcatch\\b", "\\bfinally\\b", "\\bsynchronized\\b",
-        "\\bassert\\b", "\\bvar\\b", "->", "::", "\\w+Exact\\b", "\\bSystem\\.(?!arraycopy\\b)", "\\bThread\\b",
-        "\\bequals\\b", "\\bhashCode\\b", "\\btoString\\b", "\\bprotected\\b", "\\bRandom\\b",
-        "\\bimport (?!java\\.util\\.(ArrayList|List|Arrays|Iterator);)", "[^\\x00-\\x7f]",
-        "\\[\\]\\s*\\[\\]\\s*\\[\\]", "\\bHash\\w+", "\\bstatic\\s*\\{", "\\bwhile\\s*\\(\\s*true",
-        "for\\s*\\(\\s*;\\s*;"
+        "\\bassert\\b", "\\bvar\\b", "\\)\\s*->", "=\\s*\\w+\\s*->", "::", "\\w+Exact\\b",
+        "\\bSystem\\.(?!arraycopy\\b)", "\\bThread\\b", "\\bRandom\\b", "\\bHash\\w+", "\\bprotected\\b",
+        "\\bboolean\\s+equals\\b", "\\bhashCode\\b", "\\bString\\s+toString\\b",
+        "\\bimport (?!java\\.util\\.(ArrayList|List|Arrays|Iterator|\\*);)", "[^\\x00-\\x7f]",
+        "\\[\\]\\s*\\[\\]\\s*\\[\\]", "\\bstatic\\s*\\{", "\\bwhile\\s*\\(\\s*true", "for\\s*\\(\\s*;\\s*;"
     };
 
     public static void main(String[] args) throws Exception {

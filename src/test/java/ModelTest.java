@@ -1,9 +1,9 @@
 import java.util.Random;
+import java.util.function.IntSupplier;
 
 /** Long runs of calls, each answered by BinderParcels and by the model: the answers are the same. */
 public final class ModelTest {
     private static final int RUNS = 240;
-    private static final int CALLS = 512;
 
     private final BinderParcels x = new BinderParcels();
     private final Model model = new Model();
@@ -40,14 +40,14 @@ public final class ModelTest {
         }
         if (isFull) {
             for (int i = 0; i < 7; i++) {
-                issue(Check.row('+', 10 + 8 * i, 8));
+                issue(Make.row('+', 10 + 8 * i, 8));
             }
             own();
         }
         for (int i = model.count(0); i < parcels; i++) {
             issue();
         }
-        while (call < CALLS) {
+        while (call < Subject.MOST_CALLS) {
             step();
         }
     }
@@ -56,9 +56,12 @@ public final class ModelTest {
         return random.nextInt(100) < percent;
     }
 
-    private void due(String name, int got, int want) {
-        call++;
-        Check.due("run " + run + ", call " + call + ": " + name, got, want);
+    /** A step may have calls left when the object has been used for all that are promised. */
+    private void due(String name, IntSupplier got, IntSupplier want) {
+        if (call < Subject.MOST_CALLS) {
+            call++;
+            Check.due("run " + run + ", call " + call + ": " + name, got.getAsInt(), want.getAsInt());
+        }
     }
 
     private int number() {
@@ -83,11 +86,11 @@ public final class ModelTest {
     }
 
     private void own() {
-        due("own()", x.own(), model.own());
+        due("own()", () -> x.own(), () -> model.own());
     }
 
     private void put(long characters) {
-        due("put(" + characters + ")", x.put(characters), model.put(characters));
+        due("put(" + characters + ")", () -> x.put(characters), () -> model.put(characters));
     }
 
     private void issue() {
@@ -111,13 +114,13 @@ public final class ModelTest {
 
     private void issue(String text) {
         if (chance(95)) {
-            due("wipe()", x.wipe(), model.wipe());
+            due("wipe()", () -> x.wipe(), () -> model.wipe());
         }
         for (int i = 0; i < text.length(); i += 8) {
-            put(Check.packed(text.substring(i, Math.min(text.length(), i + 8))));
+            put(Make.packed(text.substring(i, Math.min(text.length(), i + 8))));
         }
-        due("fault()", x.fault(), model.fault());
-        due("issue()", x.issue(), model.issue());
+        due("fault()", () -> x.fault(), () -> model.fault());
+        due("issue()", () -> x.issue(), () -> model.issue());
     }
 
     private void step() {
@@ -145,38 +148,38 @@ public final class ModelTest {
         } else if (kind < 44) {
             boolean isCareful = !chance(careless);
             due("done(" + owner + ", " + parcel + ", " + isCareful + ")",
-                x.done(owner, parcel, isCareful), model.done(owner, parcel, isCareful));
+                () -> x.done(owner, parcel, isCareful), () -> model.done(owner, parcel, isCareful));
         } else if (kind < 47) {
-            due("doAll(" + owner + ")", x.doAll(owner), model.doAll(owner));
+            due("doAll(" + owner + ")", () -> x.doAll(owner), () -> model.doAll(owner));
         } else if (kind < 57) {
-            due("lose(" + owner + ", " + parcel + ")", x.lose(owner, parcel), model.lose(owner, parcel));
+            due("lose(" + owner + ", " + parcel + ")", () -> x.lose(owner, parcel), () -> model.lose(owner, parcel));
         } else if (kind < 77) {
-            due("again(" + owner + ", " + parcel + ")", x.again(owner, parcel), model.again(owner, parcel));
+            due("again(" + owner + ", " + parcel + ")", () -> x.again(owner, parcel), () -> model.again(owner, parcel));
         } else {
             int number = number();
             boolean isPutIn = chance(isFull ? 90 : numbers < 30 ? 40 : 70);
             due("hand(" + owner + ", " + number + ", " + parcel + ", " + isPutIn + ")",
-                x.hand(owner, number, parcel, isPutIn), model.hand(owner, number, parcel, isPutIn));
+                () -> x.hand(owner, number, parcel, isPutIn), () -> model.hand(owner, number, parcel, isPutIn));
         }
     }
 
     private void undoOrSave(int kind) {
         int slot = random.nextInt(4) - 1;
         if (kind < 5) {
-            due("undo()", x.undo(), model.undo());
+            due("undo()", () -> x.undo(), () -> model.undo());
         } else if (kind < 8) {
-            due("save(" + slot + ")", x.save(slot), model.save(slot));
+            due("save(" + slot + ")", () -> x.save(slot), () -> model.save(slot));
         } else if (chance(40)) {
-            due("restore(" + slot + ")", x.restore(slot), model.restore(slot));
+            due("restore(" + slot + ")", () -> x.restore(slot), () -> model.restore(slot));
         }
     }
 
     private void characters() {
         long bits = random.nextLong() & 0x7f7f7f7f7f7f7f7fL;
         put(chance(50) ? bits >>> 8 * random.nextInt(8) : random.nextLong());
-        due("fault()", x.fault(), model.fault());
+        due("fault()", () -> x.fault(), () -> model.fault());
         if (chance(20)) {
-            due("wipe()", x.wipe(), model.wipe());
+            due("wipe()", () -> x.wipe(), () -> model.wipe());
         }
     }
 
@@ -186,19 +189,19 @@ public final class ModelTest {
         int number = number();
         if (kind == 0) {
             int what = what(11);
-            due("parcel(" + parcel + ", " + what + ")", x.parcel(parcel, what), model.parcel(parcel, what));
+            due("parcel(" + parcel + ", " + what + ")", () -> x.parcel(parcel, what), () -> model.parcel(parcel, what));
         } else if (kind == 1) {
-            due("text(" + number + ")", x.text(number), model.text(number));
+            due("text(" + number + ")", () -> x.text(number), () -> model.text(number));
         } else if (kind == 2) {
             int what = what(6);
             due("leaf(" + owner + ", " + number + ", " + what + ")",
-                x.leaf(owner, number, what), model.leaf(owner, number, what));
+                () -> x.leaf(owner, number, what), () -> model.leaf(owner, number, what));
         } else if (kind == 3) {
             int what = what(8);
-            due("of(" + owner + ", " + what + ")", x.of(owner, what), model.of(owner, what));
+            due("of(" + owner + ", " + what + ")", () -> x.of(owner, what), () -> model.of(owner, what));
         } else {
             int what = what(9);
-            due("count(" + what + ")", x.count(what), model.count(what));
+            due("count(" + what + ")", () -> x.count(what), () -> model.count(what));
         }
     }
 
@@ -206,13 +209,13 @@ public final class ModelTest {
         int owner = owner();
         int parcel = parcel();
         if (kind < 40) {
-            due("ifDone(" + owner + ", " + parcel + ")", x.ifDone(owner, parcel), model.ifDone(owner, parcel));
+            due("ifDone(" + owner + ", " + parcel + ")", () -> x.ifDone(owner, parcel), () -> model.ifDone(owner, parcel));
         } else if (kind < 65) {
-            due("ifAllDone(" + owner + ")", x.ifAllDone(owner), model.ifAllDone(owner));
+            due("ifAllDone(" + owner + ")", () -> x.ifAllDone(owner), () -> model.ifAllDone(owner));
         } else if (kind < 80) {
-            due("mending(" + owner + ")", x.mending(owner), model.mending(owner));
+            due("mending(" + owner + ")", () -> x.mending(owner), () -> model.mending(owner));
         } else {
-            due("rightFrom(" + owner + ")", x.rightFrom(owner), model.rightFrom(owner));
+            due("rightFrom(" + owner + ")", () -> x.rightFrom(owner), () -> model.rightFrom(owner));
         }
     }
 }

@@ -1,65 +1,108 @@
-import java.util.List;
-
 /** doAll. */
 public final class Promise05Test {
+    static Section section() {
+        return new Section("Promise 5: doAll")
+            .holds("An owner does all parcels that wait with care, in the order in which they were issued.",
+                Promise05Test::withCare, Promise05Test::onlyThoseThatWait, Promise05Test::inTheOrderOfIssue,
+                Promise05Test::othersStay, Promise05Test::inAFullBinder)
+            .holds("This is a change.", Promise05Test::isAChange, Promise05Test::isAChangeIfNoneWaits)
+            .holds("Returns how many;", Promise05Test::from0To16)
+            .holds("NO_SUCH if there is no such owner.", Promise05Test::noSuch);
+    }
+
     public static void main(String[] args) {
-        BinderParcels x = new BinderParcels();
+        section().run();
+    }
+
+    private static void withCare() {
+        Subject x = Make.waiting("+1.0,+2.0", "-2.0");
+        Make.hand(x, 0, 10, 1, 3);
+        Make.hand(x, 0, 20, 1, 3);
+        x.doAll(0);
+        Check.due("of(0, 0)", x.of(0, 0), 1);
+        Check.due("leaf(0, 10, 1)", x.leaf(0, 10, 1), 0);
+        Check.due("of(0, 6)", x.of(0, 6), 1);
+    }
+
+    private static void onlyThoseThatWait() {
+        Subject x = Make.parcels("+1.0");
         x.own();
-        x.own();
-        Check.issue(x, "+1.0,+2.0,+3.0");
-        Check.issue(x, "+1.0,-2.0,+4.0");
-        Check.issue(x, "+2.0,-4.0");
-        Check.issue(x, "+3.0");
+        Make.issueAll(x, "+2.0", "+3.0", "+4.0", "+5.0");
+        x.hand(0, 10, 0, false);
+        x.done(0, 1, true);
+        x.hand(0, 20, 1, false);
+        x.lose(0, 2);
+        Check.due("doAll(0)", x.doAll(0), 2);
+        Check.due("of(0, 0)", x.of(0, 0), 2);
+        Check.due("leaf(0, 40, 1)", x.leaf(0, 40, 1), 3);
+        Check.due("leaf(0, 50, 1)", x.leaf(0, 50, 1), 4);
+        Check.due("of(0, 1)", x.of(0, 1), 0);
+        Check.due("of(0, 2), lost stays lost", x.of(0, 2), 4);
+        x.again(0, 0);
+        x.again(0, 2);
+        Check.due("doAll(0), those that are sent again", x.doAll(0), 2);
+        Check.due("of(0, 0)", x.of(0, 0), 4);
+    }
+
+    private static void inTheOrderOfIssue() {
+        Subject x = Make.waiting("+1.0,-2.0", "-1.0,+2.0,+3.0", "+1.0,+3.0");
+        x.lose(0, 0);
         x.lose(0, 1);
-        x.hand(0, 30, 0, true);
-        x.hand(0, 30, 0, true);
-        Check.due("doAll(0): three wait", x.doAll(0), 3);
-        Check.due("leaves", x.of(0, 0), 3);
-        Check.due("1.0: the lost one is not done", x.leaf(0, 10, 1), 0);
-        Check.due("2.0: the later one counts", x.leaf(0, 20, 1), 2);
-        Check.due("3.0: with care", x.leaf(0, 30, 0), 1);
-        Check.due("3.0: the latest", x.leaf(0, 30, 1), 3);
-        Check.due("nothing waits", x.of(0, 1), 0);
-        Check.due("lost stays lost", x.of(0, 2), 2);
-        Check.due("the other owner's wait", x.of(1, 1), 15);
-        Check.due("the other owner's leaves", x.of(1, 0), 0);
-        Check.due("doAll(0): none waits", x.doAll(0), 0);
-        Check.due("leaves as before", x.of(0, 0), 3);
-
-        List<Integer> before = Check.picture(x);
-        Check.due("doAll(1)", x.doAll(1), 4);
-        Check.due("its binder is right", x.of(1, 6), 1);
-        Check.due("undo()", x.undo(), 5);
-        Check.same("undo() of doAll(1)", Check.picture(x), before);
-
         x.again(0, 1);
-        Check.due("doAll(0) of the one sent again", x.doAll(0), 1);
-        Check.due("1.0", x.leaf(0, 10, 1), 1);
-        Check.due("2.0 went", x.leaf(0, 20, 0), 0);
-        Check.due("4.0 came", x.leaf(0, 40, 1), 1);
-        emptyOneIsAChange();
-        errors();
-        Check.finish();
+        x.again(0, 0);
+        Check.due("doAll(0)", x.doAll(0), 3);
+        Check.due("leaf(0, 10, 1)", x.leaf(0, 10, 1), 2);
+        Check.due("leaf(0, 20, 1)", x.leaf(0, 20, 1), 1);
+        Check.due("leaf(0, 30, 1)", x.leaf(0, 30, 1), 2);
+        Check.due("of(0, 6)", x.of(0, 6), 1);
     }
 
-    private static void emptyOneIsAChange() {
-        BinderParcels x = new BinderParcels();
-        x.own();
+    private static void othersStay() {
+        Subject x = Make.issueAll(Make.owners(2), "+1.0", "+2.0");
+        x.doAll(1);
+        Check.due("of(0, 0)", x.of(0, 0), 0);
+        Check.due("of(0, 1)", x.of(0, 1), 3);
+        Check.due("parcel(0, 9)", x.parcel(0, 9), 1);
+    }
+
+    private static void inAFullBinder() {
+        Subject x = Make.issueAll(Make.full(), "+9.9", "-1.0", "+9.8,+9.7");
+        Check.due("doAll(0)", x.doAll(0), 3);
+        Check.due("of(0, 0)", x.of(0, 0), 60);
+        Check.due("leaf(0, 99, 0)", x.leaf(0, 99, 0), 0);
+        Check.due("leaf(0, 98, 0)", x.leaf(0, 98, 0), 1);
+        Check.due("leaf(0, 97, 0)", x.leaf(0, 97, 0), 0);
+        Check.due("of(0, 6)", x.of(0, 6), 1);
+    }
+
+    private static void isAChange() {
+        Check.isChange(Make.waiting("+1.0", "+2.0", "-1.0"), "doAll(0)", x -> x.doAll(0));
+    }
+
+    private static void isAChangeIfNoneWaits() {
+        Subject x = Make.owners(1);
+        Check.isChange(x, "doAll(0) of none", y -> y.doAll(0));
         Check.due("doAll(0) of none", x.doAll(0), 0);
-        Check.due("count(8)", x.count(8), 2);
         Check.due("undo()", x.undo(), 1);
-        Check.due("the owner is still there", x.count(1), 1);
+        Check.due("count(1), the owner is still there", x.count(1), 1);
     }
 
-    private static void errors() {
-        BinderParcels x = new BinderParcels();
-        x.own();
-        Check.issue(x, "+1.0");
-        List<Integer> before = Check.wholePicture(x);
-        Check.due("doAll(-1)", x.doAll(-1), Check.NO_SUCH);
-        Check.due("doAll(1)", x.doAll(1), Check.NO_SUCH);
-        Check.due("doAll(8)", x.doAll(8), Check.NO_SUCH);
-        Check.due("doAll(MIN)", x.doAll(Integer.MIN_VALUE), Check.NO_SUCH);
-        Check.same("the failed doAll", Check.wholePicture(x), before);
+    private static void from0To16() {
+        Subject x = Make.owners(1);
+        Check.due("doAll(0), none", x.doAll(0), 0);
+        for (int parcel = 0; parcel < 16; parcel++) {
+            Make.issueAll(x, Make.row('+', 10 + parcel, 1));
+            Check.due("doAll(0), " + (parcel + 1) + " wait", x.twin().doAll(0), parcel + 1);
+        }
+        Check.due("doAll(0)", x.doAll(0), 16);
+        Check.due("doAll(0), none is left", x.doAll(0), 0);
+    }
+
+    private static void noSuch() {
+        Subject x = Make.issueAll(Make.owners(2), "+1.0");
+        for (int none : new int[] {-1, 2, 8, 32, Integer.MIN_VALUE, Integer.MAX_VALUE}) {
+            Check.fails(x, "doAll(" + none + ")", y -> y.doAll(none), Check.NO_SUCH);
+        }
+        Check.fails(new Subject(), "doAll(0) without owners", y -> y.doAll(0), Check.NO_SUCH);
     }
 }

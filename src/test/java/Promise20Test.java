@@ -1,78 +1,66 @@
 /** fault. */
 public final class Promise20Test {
-    private static final String LONGEST = Check.row('+', 10, 8);
+    static Section section() {
+        return new Section("Promise 20: fault")
+            .holds("Returns the fault of the pad,",
+                Promise20Test::firstAndLast, Promise20Test::endsTooEarly, Promise20Test::fullPad,
+                Promise20Test::changesNothing)
+            .holds("NONE if there is none.", Promise20Test::oneTo8Orders, Promise20Test::numberTwice);
+    }
 
     public static void main(String[] args) {
-        wholeTexts();
-        textsThatEndTooEarly();
-        wrongCharacters();
-        everyCharacterAtEveryPlace();
-        isNoChange();
-        Check.finish();
+        section().run();
     }
 
     private static void due(String text, int want) {
-        BinderParcels x = new BinderParcels();
-        Check.type(x, text);
+        Subject x = new Subject();
+        Make.type(x, text);
         Check.due("fault() of '" + text + "'", x.fault(), want);
-        Check.due("fault() again of '" + text + "'", x.fault(), want);
-        Check.due("count(7) of '" + text + "'", x.count(7), text.length());
     }
 
-    private static void wholeTexts() {
-        due("+1.0", Check.NONE);
-        due("-9.9", Check.NONE);
-        due("+1.0,-1.0", Check.NONE);
-        due("-5.5,-5.5,-5.5", Check.NONE);
-        for (int size = 1; size <= 8; size++) {
-            due(Check.row('+', 15, size), Check.NONE);
-        }
+    private static void firstAndLast() {
+        due("x", 0);
+        due("x1.0,+2.0", 0);
+        due("+1.0,+2.x", 8);
+        due(Make.row('+', 10, 8).substring(0, 38) + "x", 38);
+        due(Make.row('+', 10, 8) + ",", 39);
     }
 
-    private static void textsThatEndTooEarly() {
-        for (int length = 0; length < LONGEST.length(); length++) {
-            due(LONGEST.substring(0, length), length % 5 == 4 ? Check.NONE : length);
-        }
+    private static void endsTooEarly() {
+        due("", 0);
+        due("+", 1);
+        due("+1", 2);
+        due("+1.", 3);
+        due("+1.0,", 5);
+        due(Make.row('+', 10, 8).substring(0, 38), 38);
     }
 
-    private static void wrongCharacters() {
-        due("1.0", 0);
-        due("+0.1", 1);
-        due("+1,0", 2);
-        due("+1.a", 3);
-        due("+1.0;", 4);
-        due("+1.00", 4);
-        due("+1.0,,", 5);
-        due("+1.0,1.0", 5);
-        due("+1.0,+1.0,+x.y", 11);
-        due("x.y+", 0);
-        due(LONGEST + ",", 39);
-        due(LONGEST + ",+9.9", 39);
-        due(LONGEST + "+", 39);
-        due(LONGEST + ",+9.9,+99", 39);
-        due(LONGEST.substring(0, 38) + "x,", 38);
-        due("+" + LONGEST + ",+9.9,+9", 1);
+    private static void fullPad() {
+        due("x".repeat(48), 0);
+        due(Make.row('+', 10, 9) + ",+2.", 39);
+        due(Make.row('+', 10, 7) + "x".repeat(14), 34);
     }
 
-    private static void everyCharacterAtEveryPlace() {
-        String[] fitting = {"+-", "123456789", ".", "0123456789", ","};
-        for (int place = 0; place < 15; place++) {
-            for (char character = 33; character <= 126; character++) {
-                String text = LONGEST.substring(0, place) + character;
-                boolean fits = fitting[place % 5].indexOf(character) >= 0;
-                int want = !fits ? place : place % 5 == 3 ? Check.NONE : place + 1;
-                BinderParcels x = new BinderParcels();
-                Check.type(x, text);
-                Check.due("fault() of '" + text + "'", x.fault(), want);
-            }
-        }
-    }
-
-    private static void isNoChange() {
-        BinderParcels x = new BinderParcels();
-        Check.type(x, "+1.0");
+    private static void changesNothing() {
+        Check.changesNothing(Make.rich(), "fault()", Subject::fault);
+        Subject x = new Subject();
+        Make.type(x, "+1.0");
         x.fault();
+        Check.due("put() behind fault()", x.put(','), 5);
+        Check.due("fault()", x.fault(), 5);
         Check.due("count(8)", x.count(8), 0);
-        Check.due("issue() behind it", x.issue(), 0);
+    }
+
+    private static void oneTo8Orders() {
+        for (int orders = 1; orders <= 8; orders++) {
+            due(Make.row('+', 95 - orders, orders), Check.NONE);
+            due(Make.row('-', 10, orders), Check.NONE);
+        }
+        due("+1.0,+0.9", 6);
+    }
+
+    private static void numberTwice() {
+        due("+1.0,+1.0", Check.NONE);
+        due("-1.0,+1.0", Check.NONE);
     }
 }

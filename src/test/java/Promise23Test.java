@@ -1,107 +1,161 @@
-import java.util.List;
+import java.util.Map;
 
 /** restore. */
 public final class Promise23Test {
+    static Section section() {
+        return new Section("Promise 23: restore")
+            .holds("Restores what was saved last in a slot,",
+                Promise23Test::everything, Promise23Test::parcelWhoseNumberCameAgain, Promise23Test::savedLast,
+                Promise23Test::goesOnFromThere)
+            .holds("which keeps it.", Promise23Test::keepsIt)
+            .holds("This is a change.", Promise23Test::isAChange, Promise23Test::isAChangeIfNothingIsDifferent)
+            .holds("- `slot`: 0 or 1", Promise23Test::twoSlots)
+            .holds("Returns how many parcels there are then;", Promise23Test::from0To16)
+            .holds("BAD_VALUE if there is no such slot;", Promise23Test::noSuchSlot)
+            .holds("NOT_POSSIBLE if nothing was saved in it.",
+                Promise23Test::nothingSaved, Promise23Test::onlyTheOtherSlot, Promise23Test::savedStaysSaved);
+    }
+
     public static void main(String[] args) {
-        wholeState();
-        ordersOfParcels();
-        keepsTheSlot();
-        isAChange();
-        errors();
-        Check.finish();
+        section().run();
     }
 
-    private static void wholeState() {
-        BinderParcels x = new BinderParcels();
-        Check.issue(x, "+1.0,+2.0,-3.0");
-        x.own();
-        x.own();
-        Check.issue(x, "+2.0,+5.0");
-        Check.issue(x, "-1.0");
-        x.lose(0, 1);
-        x.done(1, 1, false);
-        x.hand(0, 99, 2, true);
-        List<Integer> saved = Check.picture(x);
-        List<Integer> text = Check.textOf(x);
+    private static void everything() {
+        Subject x = Make.rich();
+        Subject saved = x.twin();
         x.save(0);
-        Check.issue(x, Check.row('+', 30, 8));
-        x.own();
-        x.doAll(0);
-        x.doAll(1);
-        x.again(0, 1);
-        Check.type(x, "+1.");
-        Check.due("restore(0)", x.restore(0), 3);
-        Check.same("restore(0)", Check.picture(x), saved);
-        Check.same("the text of restore(0)", Check.textOf(x), text);
-        Check.due("the pad stays", x.count(7), 3);
-        Check.due("3 is gone", x.parcel(3, 0), Check.NO_SUCH);
-        x.wipe();
-        Check.due("issue() then", Check.issue(x, "+7.0"), 3);
-        Check.due("it waits for both", x.parcel(3, 9), 3);
+        x.doAll(2);
+        x.doAll(6);
+        x.lose(4, 8);
+        x.again(0, 14);
+        Check.due("restore(0)", x.restore(0), 16);
+        Check.same("restore(0)", Picture.of(x), Picture.of(saved));
+        Check.same("restore(0), the pad", Picture.ofPad(x), Picture.ofPad(saved));
     }
 
-    private static void ordersOfParcels() {
-        BinderParcels x = new BinderParcels();
-        x.own();
-        Check.issue(x, "+1.0,-2.0,+3.0");
-        List<Integer> saved = Check.picture(x);
+    private static void parcelWhoseNumberCameAgain() {
+        Subject x = Make.waiting("+1.0,-2.0,+3.0");
+        Map<String, Integer> saved = Picture.of(x);
         x.save(0);
         x.undo();
-        Check.issue(x, "-4.0");
+        Make.issueAll(x, "-4.0");
         Check.due("restore(0)", x.restore(0), 1);
-        Check.same("restore(0)", Check.picture(x), saved);
+        Check.same("restore(0)", Picture.of(x), saved);
         Check.due("doAll(0)", x.doAll(0), 1);
-        Check.due("the binder is right", x.of(0, 6), 1);
-        Check.due("its leaves", x.of(0, 0), 2);
+        Check.due("of(0, 6)", x.of(0, 6), 1);
+        Check.due("of(0, 0)", x.of(0, 0), 2);
     }
 
-    private static void keepsTheSlot() {
-        BinderParcels x = new BinderParcels();
+    private static void savedLast() {
+        Subject x = Make.owners(1);
+        x.save(1);
+        x.own();
+        x.save(1);
         x.own();
         x.save(0);
+        x.restore(1);
+        Check.due("count(1)", x.count(1), 2);
+    }
+
+    private static void goesOnFromThere() {
+        Subject x = Make.waiting("+1.0", "+2.0");
+        x.save(0);
+        Make.issueAll(x, "+3.0");
+        x.own();
+        x.restore(0);
+        Check.due("parcel(2, 0), not issued then", x.parcel(2, 0), Check.NO_SUCH);
+        Check.due("of(1, 0), not there then", x.of(1, 0), Check.NO_SUCH);
+        Check.due("issue()", Make.issue(x, "-1.0,+4.0"), 2);
+        Check.due("parcel(2, 1)", x.parcel(2, 1), 10);
+        Check.due("parcel(2, 9)", x.parcel(2, 9), 1);
+        Check.due("own()", x.own(), 1);
+        Check.due("of(1, 0)", x.of(1, 0), 2);
+        Check.due("done(0, 2, true)", x.done(0, 2, true), 1);
+    }
+
+    private static void keepsIt() {
+        Subject x = Make.owners(1);
+        x.save(0);
+        Map<String, Integer> saved = Picture.of(x);
         for (int i = 0; i < 3; i++) {
             x.own();
-            Check.issue(x, "+1.0");
+            Make.issueAll(x, "+1.0");
             x.hand(0, 10, 0, true);
+            x.lose(0, 0);
             Check.due("restore(0)", x.restore(0), 0);
-            Check.due("owners", x.count(1), 1);
-            Check.due("leaves", x.of(0, 0), 0);
+            Check.same("restore(0)", Picture.of(x), saved);
         }
+        x.undo();
+        Check.due("restore(0) behind its undo()", x.restore(0), 0);
+        Check.same("restore(0) behind its undo()", Picture.of(x), saved);
     }
 
     private static void isAChange() {
-        BinderParcels x = new BinderParcels();
-        x.save(1);
+        Check.isChange(Make.rich(), "restore(1)", x -> x.restore(1));
+        Subject x = new Subject();
+        x.save(0);
+        Make.issueAll(x, "+1.0");
         x.own();
-        Check.issue(x, "+1.0");
-        List<Integer> before = Check.picture(x);
-        Check.due("restore(1)", x.restore(1), 0);
-        Check.due("count(8)", x.count(8), 3);
-        Check.due("count(1)", x.count(1), 0);
-        Check.due("undo()", x.undo(), 2);
-        Check.same("undo() of restore(1)", Check.picture(x), before);
-        Check.due("undo() of issue()", x.undo(), 1);
-        x.restore(1);
-        x.restore(1);
-        Check.due("restore of the same is a change, too", x.count(8), 3);
+        Check.isChange(x, "restore(0) of nothing", y -> y.restore(0));
     }
 
-    private static void errors() {
-        BinderParcels x = new BinderParcels();
-        x.own();
-        fails(x, 0, Check.NOT_POSSIBLE);
-        fails(x, 1, Check.NOT_POSSIBLE);
-        fails(x, 2, Check.BAD_VALUE);
-        fails(x, -1, Check.BAD_VALUE);
-        x.save(1);
-        fails(x, 0, Check.NOT_POSSIBLE);
-        fails(x, Integer.MAX_VALUE, Check.BAD_VALUE);
-        fails(x, Integer.MIN_VALUE, Check.BAD_VALUE);
+    private static void isAChangeIfNothingIsDifferent() {
+        Subject x = Make.rich();
+        x.undo();
+        x.save(0);
+        Check.isChange(x, "restore(0) of the same", y -> y.restore(0));
     }
 
-    private static void fails(BinderParcels x, int slot, int error) {
-        List<Integer> before = Check.wholePicture(x);
-        Check.due("restore(" + slot + ")", x.restore(slot), error);
-        Check.same("the failed restore(" + slot + ")", Check.wholePicture(x), before);
+    private static void twoSlots() {
+        Subject x = Make.parcels("+1.0");
+        x.save(1);
+        Make.issueAll(x, "+2.0");
+        x.save(0);
+        Make.issueAll(x, "+3.0");
+        Check.due("restore(0)", x.restore(0), 2);
+        Check.due("restore(1)", x.restore(1), 1);
+        Check.due("restore(0)", x.restore(0), 2);
+    }
+
+    private static void from0To16() {
+        Subject x = new Subject();
+        for (int parcels = 0; parcels <= 16; parcels++) {
+            x.save(0);
+            if (parcels < 16) {
+                Make.issueAll(x, "+1.0");
+                Check.due("restore(0)", x.twin().restore(0), parcels);
+            }
+        }
+        Check.due("restore(0)", x.restore(0), 16);
+    }
+
+    private static void noSuchSlot() {
+        Subject x = Make.rich();
+        x.save(0);
+        for (int slot : new int[] {-1, 2, 3, Integer.MIN_VALUE, Integer.MAX_VALUE}) {
+            Check.fails(x, "restore(" + slot + ")", y -> y.restore(slot), Check.BAD_VALUE);
+        }
+        Check.fails(new Subject(), "restore(2), nothing saved", y -> y.restore(2), Check.BAD_VALUE);
+    }
+
+    private static void nothingSaved() {
+        Check.fails(new Subject(), "restore(0)", x -> x.restore(0), Check.NOT_POSSIBLE);
+        Check.fails(new Subject(), "restore(1)", x -> x.restore(1), Check.NOT_POSSIBLE);
+    }
+
+    private static void onlyTheOtherSlot() {
+        Check.fails(Make.rich(), "restore(0)", x -> x.restore(0), Check.NOT_POSSIBLE);
+        Subject x = Make.waiting("+1.0");
+        x.save(0);
+        x.own();
+        Check.fails(x, "restore(1)", y -> y.restore(1), Check.NOT_POSSIBLE);
+    }
+
+    private static void savedStaysSaved() {
+        Subject x = Make.owners(1);
+        x.save(0);
+        x.undo();
+        Check.due("restore(0), undo() leaves the slots", x.restore(0), 0);
+        Check.due("count(1)", x.count(1), 1);
     }
 }
