@@ -56,6 +56,11 @@ final class Check {
         same(name + ", undone", Picture.of(changed), Picture.of(x));
     }
 
+    static void threw(Throwable thrown) {
+        wrong++;
+        thrown.printStackTrace(System.out);
+    }
+
     static int wrong() {
         return wrong;
     }

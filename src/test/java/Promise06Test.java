@@ -22,6 +22,9 @@ public final class Promise06Test {
         Check.due("of(0, 2)", x.of(0, 2), 2);
         Check.due("parcel(1, 9)", x.parcel(1, 9), 0);
         Check.due("parcel(1, 10)", x.parcel(1, 10), 1);
+        x.lose(0, 2);
+        Check.due("of(0, 1), one more is lost", x.of(0, 1), 1);
+        Check.due("of(0, 2)", x.of(0, 2), 6);
         Check.due("of(0, 0), the binder stays", x.of(0, 0), 0);
         Check.due("count(2), the text stays", x.count(2), 3);
     }

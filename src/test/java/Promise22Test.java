@@ -24,10 +24,12 @@ public final class Promise22Test {
             Subject x = Make.rich();
             Map<String, Integer> before = Picture.of(x);
             Check.due("save(" + slot + ")", x.save(slot), 16);
-            x.doAll(3);
             x.undo();
-            x.undo();
-            x.hand(5, 33, 2, true);
+            for (int owner = 0; owner < 8; owner++) {
+                x.again(owner, 15);
+                x.lose(owner, 15);
+                x.hand(owner, 33, owner, true);
+            }
             x.restore(slot);
             Check.same("restore(" + slot + ")", Picture.of(x), before);
         }

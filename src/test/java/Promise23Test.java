@@ -24,10 +24,12 @@ public final class Promise23Test {
         Subject x = Make.rich();
         Subject saved = x.twin();
         x.save(0);
-        x.doAll(2);
-        x.doAll(6);
-        x.lose(4, 8);
-        x.again(0, 14);
+        for (int owner = 0; owner < 8; owner++) {
+            x.again(owner, 14);
+            x.doAll(owner);
+            x.again(owner, 3);
+            x.lose(owner, 3);
+        }
         Check.due("restore(0)", x.restore(0), 16);
         Check.same("restore(0)", Picture.of(x), Picture.of(saved));
         Check.same("restore(0), the pad", Picture.ofPad(x), Picture.ofPad(saved));

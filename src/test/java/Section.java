@@ -42,12 +42,21 @@ final class Section {
         for (Held one : held) {
             int before = Check.wrong();
             for (Runnable test : one.tests) {
-                test.run();
+                run(test);
             }
             if (Check.wrong() > before) {
                 System.out.println("-- does not hold: " + title + ": " + one.sentence);
             }
         }
         Check.finish();
+    }
+
+    /** A call that throws is wrong, and does not keep the other sentences from their tests. */
+    private static void run(Runnable test) {
+        try {
+            test.run();
+        } catch (RuntimeException | StackOverflowError thrown) {
+            Check.threw(thrown);
+        }
     }
 }
