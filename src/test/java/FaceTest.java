@@ -56,7 +56,8 @@ public final class FaceTest {
     private static void constants(Class<?> face) throws Exception {
         Set<String> seen = new TreeSet<>();
         for (Field field : face.getDeclaredFields()) {
-            due(!Modifier.isStatic(field.getModifiers()) || Modifier.isFinal(field.getModifiers()), field + " is final");
+            due(!Modifier.isStatic(field.getModifiers()) || Modifier.isFinal(field.getModifiers()),
+                field + " is final");
             if (!Modifier.isPrivate(field.getModifiers())) {
                 seen.add(field.getName());
                 due(field.getModifiers() == (Modifier.PUBLIC | Modifier.STATIC | Modifier.FINAL)

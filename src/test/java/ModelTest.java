@@ -15,6 +15,8 @@ public final class ModelTest {
     private final int careless;
     /** Whether the text, and many a binder, has as many leaves as it can have, or nearly so. */
     private final boolean isFull;
+    /** How often, of a hundred times, an argument is at a border or beyond it. */
+    private final int astray;
     private int call = 0;
 
     private ModelTest(int run) {
@@ -24,6 +26,7 @@ public final class ModelTest {
         takenOut = new int[] {10, 35, 60}[run % 3];
         careless = new int[] {10, 50}[run / 2 % 2];
         isFull = run % 4 == 3 && run % 3 != 2;
+        astray = run % 8 < 6 ? 4 : 40;
     }
 
     public static void main(String[] args) {
@@ -64,12 +67,17 @@ public final class ModelTest {
         }
     }
 
+    private int oneOf(int... values) {
+        return values[random.nextInt(values.length)];
+    }
+
     private int number() {
-        return chance(4) ? random.nextInt(130) - 10 : 10 + (random.nextInt(numbers) * 37 + run) % 90;
+        return chance(astray) ? oneOf(9, 10, 99, 100, 0, -10, 256 + 10, Integer.MIN_VALUE, Integer.MAX_VALUE)
+            : 10 + (random.nextInt(numbers) * 37 + run) % 90;
     }
 
     private int index(int size) {
-        return chance(4) ? new int[] {-1, size, 99, Integer.MIN_VALUE, Integer.MAX_VALUE}[random.nextInt(5)]
+        return chance(astray) ? oneOf(-1, size - 1, size, size + 1, 32, 64, Integer.MIN_VALUE, Integer.MAX_VALUE)
             : random.nextInt(Math.max(1, size));
     }
 
@@ -82,7 +90,8 @@ public final class ModelTest {
     }
 
     private int what(int size) {
-        return random.nextInt(size + 2) - 1;
+        return chance(astray / 2) ? oneOf(-1, size - 1, size, Integer.MIN_VALUE, Integer.MAX_VALUE)
+            : random.nextInt(size);
     }
 
     private void own() {
@@ -164,7 +173,7 @@ public final class ModelTest {
     }
 
     private void undoOrSave(int kind) {
-        int slot = random.nextInt(4) - 1;
+        int slot = index(2);
         if (kind < 5) {
             due("undo()", () -> x.undo(), () -> model.undo());
         } else if (kind < 8) {
@@ -209,7 +218,8 @@ public final class ModelTest {
         int owner = owner();
         int parcel = parcel();
         if (kind < 40) {
-            due("ifDone(" + owner + ", " + parcel + ")", () -> x.ifDone(owner, parcel), () -> model.ifDone(owner, parcel));
+            due("ifDone(" + owner + ", " + parcel + ")",
+                () -> x.ifDone(owner, parcel), () -> model.ifDone(owner, parcel));
         } else if (kind < 65) {
             due("ifAllDone(" + owner + ")", () -> x.ifAllDone(owner), () -> model.ifAllDone(owner));
         } else if (kind < 80) {

@@ -9,6 +9,8 @@ import java.util.Map;
 
 /** Each sentence of the document's terms and promises has its tests, in the document's own words. */
 public final class SentencesTest {
+    private static final String OF_SECTIONS = "(WhatItIs|Terms\\w+|Promise\\d\\d)Test\\.java";
+
     private static int wrong = 0;
 
     public static void main(String[] args) throws Exception {
@@ -55,7 +57,7 @@ public final class SentencesTest {
     /** What the tests hold, by the titles of the sections. */
     private static Map<String, List<String>> sentences(File tests) throws Exception {
         Map<String, List<String>> sentences = new LinkedHashMap<>();
-        for (String file : tests.list((folder, name) -> name.matches("(WhatItIs|Terms\\w+|Promise\\d\\d)Test\\.java"))) {
+        for (String file : tests.list((folder, name) -> name.matches(OF_SECTIONS))) {
             Class<?> test = Class.forName(file.replace(".java", ""));
             Section section = (Section) test.getDeclaredMethod("section").invoke(null);
             sentences.computeIfAbsent(section.title(), title -> new ArrayList<>()).addAll(section.sentences());
